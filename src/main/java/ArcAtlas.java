@@ -461,7 +461,7 @@ public final class ArcAtlas {
 
     /** The shortest ways of a web to one place. */
     private static final class Ways {
-        /** layers[n]: the places whose shortest ways to that place have length n. */
+        /** layers[n]: the places that have a way of length n to that place, shorter ones or not. */
         private final int[] layers;
 
         Ways() {
@@ -469,11 +469,9 @@ public final class ArcAtlas {
         }
 
         void readTo(int end, Web web) {
-            int seen = only(end);
-            layers[0] = seen;
+            layers[0] = only(end);
             for (int length = 1; length < PLACES; length++) {
-                layers[length] = tailsInto(layers[length - 1], web) & ~seen;
-                seen |= layers[length];
+                layers[length] = tailsInto(layers[length - 1], web);
             }
         }
 
@@ -486,7 +484,8 @@ public final class ArcAtlas {
             return NONE;
         }
 
-        /** Place i of the first shortest way from u, which has that length, at least i. */
+        // On a shortest way no place has a shorter way to the end than the rest of this one, so
+        // the layer of that rest holds just the places by which a shortest way can go on.
         int placeOnFirst(int u, int length, int i, Web web) {
             int here = u;
             for (int step = 1; step <= i && step <= length; step++) {
@@ -537,9 +536,8 @@ public final class ArcAtlas {
             cameFrom = new int[KNOTS];
         }
 
-        /** Each place is a knot, each arrow a line. */
+        /** Each place is a knot, each arrow a line; no line leads to the exits, whatever theirs are. */
         void readArrows(Web web) {
-            Arrays.fill(lines, 0);
             for (int p = 0; p < PLACES; p++) {
                 lines[p] = web.headsOf(p);
             }

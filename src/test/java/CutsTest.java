@@ -8,6 +8,9 @@ public final class CutsTest {
         neckOfArrows();
         mostWays();
         aWayTakenBack();
+        aWayTakenBackOnce();
+        longestWay();
+        askedInTurn();
         arrowsToAndFro();
         wrongArguments();
         CHECKS.finish();
@@ -63,6 +66,29 @@ public final class CutsTest {
         ArcAtlas x = Checks.atlas(0, 1, 1, 4, 4, 7, 0, 2, 2, 3, 3, 4, 1, 5, 5, 6, 6, 7);
         CHECKS.due("arrows(0, 7)", x.arrows(0, 7), 2);
         CHECKS.due("places(0, 7)", x.places(0, 7), 2);
+    }
+
+    private static void aWayTakenBackOnce() {
+        // Two more ways come to 4 and two more leave 1, but only one thing can be turned round there.
+        ArcAtlas x = Checks.atlas(0, 1, 1, 4, 4, 15, 0, 2, 2, 7, 7, 4, 0, 3, 3, 8, 8, 4,
+                1, 5, 5, 9, 9, 15, 1, 6, 6, 10, 10, 15);
+        CHECKS.due("arrows(0, 15)", x.arrows(0, 15), 2);
+        CHECKS.due("places(0, 15)", x.places(0, 15), 2);
+    }
+
+    private static void longestWay() {
+        ArcAtlas x = Checks.atlas(Checks.ring(16));
+        CHECKS.due("places(1, 0) in the ring", x.places(1, 0), 1);
+        CHECKS.due("arrows(1, 0) in the ring", x.arrows(1, 0), 1);
+    }
+
+    private static void askedInTurn() {
+        ArcAtlas x = Checks.atlas(0, 1, 1, 2, 0, 3, 3, 2);
+        for (int turn = 0; turn < 3; turn++) {
+            CHECKS.due("places(0, 2) in turn", x.places(0, 2), 2);
+            CHECKS.due("arrows(0, 2) in turn", x.arrows(0, 2), 2);
+            CHECKS.due("arrows(2, 0) in turn", x.arrows(2, 0), 0);
+        }
     }
 
     private static void arrowsToAndFro() {

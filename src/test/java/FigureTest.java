@@ -29,6 +29,10 @@ public final class FigureTest {
         check("ring", x, 16, 1, 0, 0, 1, 16);
         x.remove(15, 0);
         check("row", x, 15, 16, 15, 15, 16, 15);
+        x.remove(7, 8);
+        check("row in two", x, 14, 16, 14, 14, 8, 14);
+        x.clear();
+        check("row taken away", x, 0, 16, 0, 0, 1, 0);
     }
 
     private static void pairsOfGroups() {

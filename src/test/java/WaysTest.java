@@ -26,6 +26,8 @@ public final class WaysTest {
         CHECKS.due("reaches(8, 3) with the ring closed", x.reaches(8, 3), true);
         x.remove(14, 3);
         CHECKS.due("reaches(8, 3) with it open again", x.reaches(8, 3), false);
+        ArcAtlas ring = Checks.atlas(Checks.ring(16));
+        CHECKS.due("reaches(1, 0) by all places", ring.reaches(1, 0), true);
     }
 
     private static void distance() {
