@@ -1,6 +1,10 @@
+import java.util.List;
+import java.util.function.Consumer;
+
 /** Counts and prints the answers of one test that are not due. */
 final class Checks {
     private final String promise;
+    private String sentence = "";
     private int asked = 0;
     private int wrong = 0;
 
@@ -8,16 +12,46 @@ final class Checks {
         this.promise = promise;
     }
 
+    /** Runs the test of one sentence of the document; a test that asks nothing is wrong too. */
+    void sentence(String words, Runnable test) {
+        int before = asked;
+        sentence = ", '" + words + "'";
+        try {
+            test.run();
+        } catch (RuntimeException e) {
+            due("a call that is not refused", "throws " + e, "an answer");
+        }
+        due("is asked for", asked > before, true);
+        sentence = "";
+    }
+
     void due(String call, Object got, Object want) {
         asked++;
         if (!want.equals(got)) {
             wrong++;
-            System.out.println(promise + ": " + call + " answered " + got + ", due is " + want);
+            System.out.println(promise + sentence + ": " + call + " answered " + got + ", due is " + want);
         }
     }
 
     void refused(String call, Class<? extends RuntimeException> want, Runnable asking) {
         due(call, outcome(asking), want.getSimpleName());
+    }
+
+    /** Also holds all answers behind the refused call against those without it. */
+    void refused(String call, Class<? extends RuntimeException> want, Scene scene, Consumer<ArcAtlas> asking) {
+        String told = call + " (" + scene.name() + ")";
+        refused(told, want, () -> asking.accept(scene.atlas()));
+        same("what is answered behind " + told, scene.portraitBehind(x -> outcome(() -> asking.accept(x))),
+                scene.portrait());
+    }
+
+    /** Holds two portraits against each other and tells the first answer that differs. */
+    void same(String portrait, List<String> got, List<String> want) {
+        int n = 0;
+        while (n + 1 < want.size() && got.get(n).equals(want.get(n))) {
+            n++;
+        }
+        due(portrait, got.get(n), want.get(n));
     }
 
     /** Prints what was counted, and ends the program with 1 if an answer was wrong. */
